@@ -208,7 +208,9 @@ public final class SoleraCellar {
             tape.length = 0;
             return refuse(NO_ROOM);
         }
-        if (!readsTape(true)) {
+        fault = reader.read(true);
+        tape.length = 0;
+        if (fault != NONE) {
             return refuse(WRONG_TEXT);
         }
         now.laws[now.lawCount] = reader.draft.trimmed();
@@ -221,7 +223,9 @@ public final class SoleraCellar {
             tape.length = 0;
             return refuse(NO_ROOM);
         }
-        if (!readsTape(false)) {
+        fault = reader.read(false);
+        tape.length = 0;
+        if (fault != NONE) {
             return refuse(WRONG_TEXT);
         }
         now.plans[now.planCount] = reader.draft.trimmed();
@@ -231,7 +235,9 @@ public final class SoleraCellar {
 
     public int orders() {
         stopped = NONE;
-        if (!readsTape(false)) {
+        fault = reader.read(false);
+        tape.length = 0;
+        if (fault != NONE) {
             return refuse(WRONG_TEXT);
         }
         // Tried on paper first: orders that stop must leave nothing behind, what can be undone neither.
@@ -279,7 +285,7 @@ public final class SoleraCellar {
 
     public int pass() {
         startWork();
-        return finishWork(PASS, worker.passUnlessLast());
+        return finishWork(PASS, now.stock.isLastYear() ? CANNOT_BE : worker.passYear());
     }
 
     public int undo() {
@@ -457,7 +463,7 @@ public final class SoleraCellar {
         harvested.copyFrom(now.stock);
         worker.begin(harvested, now.lawInForce());
         int s = seed;
-        for (int time = 0; time < n && harvested.terms[YEAR] < LAST_YEAR; time++) {
+        for (int time = 0; time < n && !harvested.isLastYear(); time++) {
             s = worker.harvestYear(s);
         }
         return accept(worker.bottles);
@@ -562,12 +568,6 @@ public final class SoleraCellar {
         return by;
     }
 
-    private boolean readsTape(boolean laws) {
-        fault = reader.read(laws);
-        tape.length = 0;
-        return fault == NONE;
-    }
-
     private boolean cameFromTape(int at) {
         if (at + 2 >= tape.length || now.stock.casks >= CASKS) {
             return false;
@@ -651,7 +651,9 @@ public final class SoleraCellar {
     private static final class Stock {
         final int[] tiers = new int[CASKS];
         final int[] sizes = new int[CASKS];
+        // How many drops are in each cask and their ages together: asked far more often than changed.
         final int[] held = new int[CASKS];
+        final long[] years = new long[CASKS];
         final int[] drops = new int[CASKS * AGES];
         final int[] terms = {0, 1, 0, 85};
         int casks;
@@ -659,6 +661,10 @@ public final class SoleraCellar {
 
         boolean has(int cask) {
             return cask >= 0 && cask < casks;
+        }
+
+        boolean isLastYear() {
+            return terms[YEAR] >= LAST_YEAR;
         }
 
         int add(int tier, int size) {
@@ -670,6 +676,7 @@ public final class SoleraCellar {
             tiers[cask] = tier;
             sizes[cask] = size;
             held[cask] = 0;
+            years[cask] = 0;
             for (int age = 0; age < AGES; age++) {
                 drops[cask * AGES + age] = 0;
             }
@@ -692,14 +699,7 @@ public final class SoleraCellar {
         }
 
         int mean(int cask) {
-            if (held[cask] < 1) {
-                return NONE;
-            }
-            long years = 0;
-            for (int age = 1; age < AGES; age++) {
-                years += (long) age * drops[cask * AGES + age];
-            }
-            return (int) (years * 1000 / held[cask]);
+            return held[cask] < 1 ? NONE : (int) (years[cask] * 1000 / held[cask]);
         }
 
         long asOldAs(int cask, int a) {
@@ -741,6 +741,7 @@ public final class SoleraCellar {
                     missing--;
                 }
                 drops[at] -= taken[age];
+                years[cask] -= (long) age * taken[age];
             }
             held[cask] -= wanted;
         }
@@ -749,6 +750,7 @@ public final class SoleraCellar {
             for (int age = 0; age < AGES; age++) {
                 drops[cask * AGES + age] += taken[age];
                 held[cask] += taken[age];
+                years[cask] += (long) age * taken[age];
             }
         }
 
@@ -763,14 +765,16 @@ public final class SoleraCellar {
         int growOlder(int cask, int thousandths) {
             int lost = 0;
             int first = cask * AGES;
-            int last = first + AGES - 1;
-            for (int at = last; at >= first; at--) {
-                int less = drops[at] * thousandths / 1000;
-                lost += less;
-                int left = drops[at] - less;
-                drops[at] = 0;
+            years[cask] = 0;
+            for (int age = AGES - 1; age >= 0; age--) {
+                int less = drops[first + age] * thousandths / 1000;
+                int left = drops[first + age] - less;
                 // The oldest stay among the oldest.
-                drops[Math.min(at + 1, last)] += left;
+                int next = Math.min(age + 1, AGES - 1);
+                drops[first + age] = 0;
+                drops[first + next] += left;
+                years[cask] += (long) next * left;
+                lost += less;
             }
             held[cask] -= lost;
             return lost;
@@ -782,6 +786,7 @@ public final class SoleraCellar {
             System.arraycopy(other.tiers, 0, tiers, 0, CASKS);
             System.arraycopy(other.sizes, 0, sizes, 0, CASKS);
             System.arraycopy(other.held, 0, held, 0, CASKS);
+            System.arraycopy(other.years, 0, years, 0, CASKS);
             System.arraycopy(other.drops, 0, drops, 0, CASKS * AGES);
             System.arraycopy(other.terms, 0, terms, 0, TERMS);
         }
@@ -1008,50 +1013,86 @@ public final class SoleraCellar {
                 if (kind == END) {
                     return NONE;
                 }
-                if (!skips(";")) {
-                    return fault;
+                if (!is(";")) {
+                    return start;
                 }
+                next();
             }
             return start;
         }
 
         private boolean clause() {
-            if (!(laws ? lawOpening() : orderOpening())) {
-                return false;
+            int verb = laws ? lawVerb() : orderVerb();
+            if (verb == NONE) {
+                return wrong();
             }
-            if (is("if")) {
-                next();
-                if (!test()) {
+            draft.open(verb);
+            next();
+            for (int s = 0; s < sumsBehind(verb); s++) {
+                if (s > 0) {
+                    if (!is(s == 1 && verb != POUR ? "from" : "in")) {
+                        return wrong();
+                    }
+                    next();
+                }
+                if (!sum()) {
                     return false;
                 }
-                draft.endSection(Text.TEST);
+                draft.endSection(s);
             }
-            return true;
+            if (!repeated()) {
+                return false;
+            }
+            if (!is("if")) {
+                return true;
+            }
+            next();
+            boolean fine = test();
+            draft.endSection(Text.TEST);
+            return fine;
         }
 
-        private boolean lawOpening() {
+        private int lawVerb() {
             if (is("loses")) {
-                return opens(LOSES) && summed(0);
+                return LOSES;
             }
             if (is("yields")) {
-                return opens(YIELDS) && summed(0);
+                return YIELDS;
             }
-            return is("bars") ? opens(BARS) : wrong();
+            return is("bars") ? BARS : NONE;
         }
 
-        private boolean orderOpening() {
-            boolean fine;
+        private int orderVerb() {
             if (is("pour")) {
-                fine = opens(POUR) && summed(0) && skips("in") && summed(1);
-            } else if (is("rack")) {
-                fine = opens(RACK) && summed(0) && skips("from") && summed(1) && skips("in") && summed(2);
-            } else if (is("bottle")) {
-                fine = opens(BOTTLE) && summed(0) && skips("from") && summed(1);
-            } else {
-                fine = is("pass") ? opens(PASS) : wrong();
+                return POUR;
             }
-            if (!fine || !is("times")) {
-                return fine;
+            if (is("rack")) {
+                return RACK;
+            }
+            if (is("bottle")) {
+                return BOTTLE;
+            }
+            return is("pass") ? PASS : NONE;
+        }
+
+        private static int sumsBehind(int verb) {
+            switch (verb) {
+                case RACK:
+                    return 3;
+                case POUR:
+                case BOTTLE:
+                    return 2;
+                case LOSES:
+                case YIELDS:
+                    return 1;
+                default:
+                    return 0;
+            }
+        }
+
+        private boolean repeated() {
+            if (laws || !is("times")) {
+                return true;
             }
             next();
             if (kind != DIGITS || value < 1 || value > MOST_TIMES) {
@@ -1060,18 +1101,6 @@ public final class SoleraCellar {
             draft.repeat(value);
             next();
             return true;
-        }
-
-        private boolean opens(int clauseKind) {
-            draft.open(clauseKind);
-            next();
-            return true;
-        }
-
-        private boolean summed(int section) {
-            boolean fine = sum();
-            draft.endSection(section);
-            return fine;
         }
 
         private boolean test() {
@@ -1238,14 +1267,10 @@ public final class SoleraCellar {
         }
 
         private boolean leaves(String bracket) {
-            depth--;
-            return skips(bracket);
-        }
-
-        private boolean skips(String token) {
-            if (!is(token)) {
+            if (!is(bracket)) {
                 return wrong();
             }
+            depth--;
             next();
             return true;
         }
@@ -1272,35 +1297,31 @@ public final class SoleraCellar {
             while (start < tape.length && tape.bytes[start] == BLANK) {
                 start++;
             }
-            kind = kindAt(start);
-            end = kind == END ? start : start + 1;
-            boolean goesOn = kind == LETTERS || kind == DIGITS;
-            while (goesOn && end < tape.length && kindAt(end) == kind) {
+            end = start;
+            kind = END;
+            value = 0;
+            while (end < tape.length) {
+                int sign = tape.bytes[end];
+                boolean isLetter = sign >= 'a' && sign <= 'z';
+                int signKind = isLetter ? LETTERS : sign >= '0' && sign <= '9' ? DIGITS : SIGN;
+                if (end > start && (signKind != kind || kind == SIGN)) {
+                    return;
+                }
+                kind = signKind;
+                if (kind == DIGITS) {
+                    // Held just beyond the most that any number may be, for rows of digits can be long.
+                    value = Math.min(value * 10 + sign - '0', MOST_NUMBER + 1);
+                }
                 end++;
             }
-            value = 0;
-            for (int at = start; at < end && kind == DIGITS; at++) {
-                // Held just beyond the most that any number may be, for rows of digits can be long.
-                value = Math.min(value * 10 + tape.bytes[at] - '0', MOST_NUMBER + 1);
-            }
-        }
-
-        private int kindAt(int at) {
-            if (at >= tape.length) {
-                return END;
-            }
-            int sign = tape.bytes[at];
-            if (sign >= 'a' && sign <= 'z') {
-                return LETTERS;
-            }
-            return sign >= '0' && sign <= '9' ? DIGITS : SIGN;
         }
     }
 
     /** Answers the sums and tests of a read text. */
     private static final class Asker {
-        private static final int BROKEN = Integer.MIN_VALUE;
-        private static final long FARTHEST = 1_000_000_000L;
+        private static final int FARTHEST = 1_000_000_000;
+        // No sum can tell this.
+        private static final int BROKEN = -2_000_000_000;
 
         final int[] pile = new int[PARTS + 1];
         int height;
@@ -1463,7 +1484,8 @@ public final class SoleraCellar {
             asker.stock = nextStock;
             asker.startText();
             bottles = 0;
-            youngest = Integer.MAX_VALUE;
+            // As old as can be, so that none bottled is never too young.
+            youngest = OLDEST;
             skipped = false;
         }
 
@@ -1528,23 +1550,16 @@ public final class SoleraCellar {
             if (tells(BARS, cask) == 1 || tells(YIELDS, cask) < n) {
                 return CANNOT_BE;
             }
+            long years = stock.years[cask];
             stock.takeOut(cask, n, taken);
             stock.bottled = Math.min(stock.bottled + n, MOST_BOTTLED);
             bottles += n;
-            long years = 0;
-            for (int age = 1; age < AGES; age++) {
-                years += (long) age * taken[age];
-            }
-            int mean = (int) (years * 1000 / (n * DROPS));
+            int mean = (int) ((years - stock.years[cask]) * 1000 / (n * DROPS));
             youngest = Math.min(youngest, mean);
             return mean;
         }
 
-        int passUnlessLast() {
-            return stock.terms[YEAR] >= LAST_YEAR ? CANNOT_BE : passYear();
-        }
-
-        /** On paper the years go on behind the last, too. */
+        /** Whether it may pass is asked ahead of it, for by a plan years go on behind the last. */
         int passYear() {
             int lost = 0;
             for (int cask = 0; cask < stock.casks; cask++) {
@@ -1576,7 +1591,7 @@ public final class SoleraCellar {
                     asker.latest = answer < 0 ? asker.latest : answer;
                     break;
                 default:
-                    answer = passUnlessLast();
+                    answer = stock.isLastYear() ? CANNOT_BE : passYear();
                     break;
             }
             asker.done += answer < 0 ? 0 : 1;
