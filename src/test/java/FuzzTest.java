@@ -2,10 +2,13 @@ import java.util.ArrayList;
 import java.util.List;
 import java.util.Random;
 
-/** Random runs of calls on the program and on the oracle, each answer compared. */
+/**
+ * Random runs of calls on the program and on the oracle, each answer compared. They go on behind the
+ * 512th call, where nothing is promised, for the program counts no calls and fuller states come there.
+ */
 public final class FuzzTest {
     private static final int RUNS = 2500;
-    private static final int CALLS = 512;
+    private static final int TURNS = 512;
 
     private final Random random;
     private final SoleraCellar x = new SoleraCellar();
@@ -46,7 +49,7 @@ public final class FuzzTest {
             }
         }
         int kinds = random.nextInt(3);
-        for (int i = casks; i < CALLS; i++) {
+        for (int i = casks; i < TURNS; i++) {
             try {
                 if (!(random.nextInt(3) < kinds ? asks() : works())) {
                     return false;
