@@ -4,12 +4,18 @@ import java.nio.charset.StandardCharsets;
 final class Due {
     private int wrong;
     private int asked;
+    private String test = "";
+
+    /** What follows is of this test, until the next one starts. */
+    void start(String name) {
+        test = name + ": ";
+    }
 
     void is(String call, long got, long want) {
         asked++;
         if (got != want) {
             wrong++;
-            System.out.println(call + " answered " + got + ", due is " + want);
+            System.out.println(test + call + " answered " + got + ", due is " + want);
         }
     }
 
